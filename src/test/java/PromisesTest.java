@@ -242,7 +242,7 @@ public final class PromisesTest {
         Due.is("about(first, 1)", 1, x.about(first, 1));
         Due.is("told(0)", 4, x.told(0));
         Due.is("told(3)", 1, x.told(3));
-        // The tables' frame with three free places takes some of the five, which must come back.
+        // Three of the five tables found a place before memory ended, and must be back.
         int tables = 0;
         for (int frame = 0; frame < 128; frame++) {
             if (x.about(frame, 0) == 2) {
@@ -744,6 +744,17 @@ public final class PromisesTest {
             Due.is("unblock(not the kernel's)", PageKernel.BAD, x.unblock(frame));
         }
         Due.is("load(0, 0)", 0, x.load(0, 0));
+        x = new PageKernel();
+        Due.is("block(2)", 0, x.block(2));
+        Due.is("block(1)", 4, x.block(1));
+        Due.is("block(1)", 6, x.block(1));
+        x.unblock(4);
+        Due.is("unblock(0): only half of its buddy is free", 2, x.unblock(0));
+        Due.is("free(1, 1)", 4, x.free(1, 1));
+        Due.is("free(2, 1)", 0, x.free(2, 1));
+        Due.is("free(3, 1)", 8, x.free(3, 1));
+        Due.is("unblock(6)", 1, x.unblock(6));
+        Due.is("free(7, 0)", 1, x.free(7, 0));
     }
 
     private static void freeFrames() {

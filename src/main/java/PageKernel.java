@@ -591,7 +591,7 @@ public final class PageKernel {
 
         /** The first frame of the least free block of an order, or NONE. */
         int leastOf(int order) {
-            if (countOf(order) == 0) {
+            if (!isOrder(order) || counts[order] == 0) {
                 return NONE;
             }
             for (int first = 0; first < FRAMES; first += 1 << order) {

@@ -419,14 +419,15 @@ public final class PageKernel {
     }
 
     private void sharePages(int from, int to) {
-        for (int page = 0; page < breaks[from]; page++) {
+        int pages = breaks[from];
+        for (int page = 0; page < pages; page++) {
             int frame = frameOfPage(from, page);
             if (isFrame(frame)) {
                 sharers[frame]++;
             }
             setWord(pageIndex(to, page), frame);
         }
-        breaks[to] = breaks[from];
+        breaks[to] = pages;
     }
 
     /** Adds the page behind the last one, or nothing at all. */
